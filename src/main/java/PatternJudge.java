@@ -41,7 +41,7 @@ public final class PatternJudge {
         patternText = new Text(PATTERN_ROOM);
         stringText = new Text(STRING_ROOM);
         tree = new Tree();
-        reader = new Reader(patternText, tree, sets);
+        reader = new Reader(new Units(patternText), tree, sets);
         automaton = new Automaton(tree);
         walk = new Walk(stringText, automaton, sets);
     }
@@ -79,12 +79,12 @@ public final class PatternJudge {
     }
 
     public boolean matches() throws IllegalArgumentException {
-        makeAutomaton();
+        automaton.build(reader.readPattern());
         return walk.leastBegin() != NONE;
     }
 
     public int longest(int from) throws IllegalArgumentException, IndexOutOfBoundsException {
-        makeAutomaton();
+        automaton.build(reader.readPattern());
         if (from < 0 || from > stringText.length) {
             throw new IndexOutOfBoundsException();
         }
@@ -92,16 +92,12 @@ public final class PatternJudge {
     }
 
     public int first() throws IllegalArgumentException {
-        makeAutomaton();
+        automaton.build(reader.readPattern());
         return walk.leastBegin();
     }
 
     private Text chosen(boolean pattern) {
         return pattern ? patternText : stringText;
-    }
-
-    private void makeAutomaton() {
-        automaton.build(reader.readPattern());
     }
 
     private static int octet(long w, int index) {
@@ -202,12 +198,24 @@ public final class PatternJudge {
             rangesTo[count] = ranges;
             families[count] = 0;
             negated[count] = isNegated;
-            answeredIn[count] = turn;
             count++;
             return count - 1;
         }
 
-        void addRange(int low, int high) {
+        void add(int unit) {
+            if (!Units.isFamily(unit)) {
+                addRange(unit, unit);
+            } else if (count > 0) {
+                families[count - 1] |= unit & Units.VALUE;
+            }
+        }
+
+        void addRange(int lowUnit, int highUnit) {
+            int low = lowUnit & Units.VALUE;
+            int high = highUnit & Units.VALUE;
+            if (Units.isFamily(lowUnit) || Units.isFamily(highUnit) || low > high) {
+                throw new IllegalArgumentException();
+            }
             if (count > 0 && ranges < PATTERN_ROOM) {
                 rangeFirst[ranges] = low;
                 rangeLast[ranges] = high;
@@ -216,12 +224,7 @@ public final class PatternJudge {
             }
         }
 
-        void addFamily(int family) {
-            if (count > 0) {
-                families[count - 1] |= family;
-            }
-        }
-
+        /** A new turn makes every answer kept so far old, those of an earlier pattern's sets too. */
         void face(int c) {
             faced = c;
             facedFamilies = familiesOf(c);
@@ -326,17 +329,124 @@ public final class PatternJudge {
         }
     }
 
-    /** Checks THE PATTERN and makes its tree; a pattern that is none is refused by a throw. */
-    private static final class Reader {
+    /**
+     * THE PATTERN with its escapes read: a unit is a character as it stands there, or what an escape
+     * stands for. A character of an escape is marked, so that it is never taken for syntax.
+     */
+    private static final class Units {
+        static final int ESCAPED = 0x200000;
+        static final int ONLY_IN_SET = 0x400000;
+        static final int FAMILY = 0x800000;
+        private static final int VALUE = 0x1FFFFF;
         private static final String SYNTAX = "^$\\.*+?()[]{}|";
 
         private final Text pattern;
+        /** Behind the last unit stands NONE, so that a reader can look ahead. */
+        private final int[] row = new int[PATTERN_ROOM + 1];
+        private int count;
+        private int place;
+
+        Units(Text pattern) {
+            this.pattern = pattern;
+        }
+
+        void readAll() {
+            count = 0;
+            place = 0;
+            while (place < pattern.length && count < PATTERN_ROOM) {
+                int c = pattern.at(place);
+                place++;
+                row[count] = c == '\\' ? readEscape() : c;
+                count++;
+            }
+            row[count] = NONE;
+        }
+
+        private int readEscape() {
+            int c = pattern.at(place);
+            place++;
+            switch (c) {
+                case 'd': return FAMILY | Sets.DIGIT;
+                case 'D': return FAMILY | Sets.NO_DIGIT;
+                case 'w': return FAMILY | Sets.WORD;
+                case 'W': return FAMILY | Sets.NO_WORD;
+                case 's': return FAMILY | Sets.BLANK;
+                case 'S': return FAMILY | Sets.NO_BLANK;
+                case 't': return ESCAPED | 9;
+                case 'n': return ESCAPED | 10;
+                case 'v': return ESCAPED | 11;
+                case 'f': return ESCAPED | 12;
+                case 'r': return ESCAPED | 13;
+                case 'b': return ONLY_IN_SET | 8;
+                case '-': return ONLY_IN_SET | '-';
+                case 'x': return ESCAPED | readHexadecimal(2);
+                case 'u': return ESCAPED | readHexadecimalOfU();
+                default: return ESCAPED | readCharacterEscape(c);
+            }
+        }
+
+        private int readCharacterEscape(int c) {
+            if (c == '0' && !isDigit(pattern.at(place))) {
+                return 0;
+            }
+            if (c != '/' && !isSyntax(c)) {
+                throw new IllegalArgumentException();
+            }
+            return c;
+        }
+
+        private int readHexadecimalOfU() {
+            if (pattern.at(place) != '{') {
+                return readHexadecimal(4);
+            }
+            place++;
+            int value = readHexadecimal(1);
+            for (int i = 0; i < PATTERN_ROOM && pattern.at(place) != '}'; i++) {
+                value = 16 * value + readHexadecimal(1);
+                // Looked at after each digit: any number of them may come, and the value must not wrap.
+                if (value > LAST_CHARACTER) {
+                    throw new IllegalArgumentException();
+                }
+            }
+            place++;
+            return value;
+        }
+
+        private int readHexadecimal(int digits) {
+            int value = 0;
+            for (int i = 0; i < digits; i++) {
+                int digit = hexadecimalValue(pattern.at(place));
+                if (digit == NONE) {
+                    throw new IllegalArgumentException();
+                }
+                value = 16 * value + digit;
+                place++;
+            }
+            return value;
+        }
+
+        static boolean isSyntax(int unit) {
+            return unit >= 0 && unit < 128 && SYNTAX.indexOf((char) unit) >= 0;
+        }
+
+        static boolean isFamily(int unit) {
+            return unit >= 0 && (unit & FAMILY) != 0;
+        }
+
+        static boolean isOnlyInSet(int unit) {
+            return unit >= 0 && (unit & ONLY_IN_SET) != 0;
+        }
+    }
+
+    /** Checks THE PATTERN and makes its tree; a pattern that is none is refused by a throw. */
+    private static final class Reader {
+        private final Units units;
         private final Tree tree;
         private final Sets sets;
         private int place;
 
-        Reader(Text pattern, Tree tree, Sets sets) {
-            this.pattern = pattern;
+        Reader(Units units, Tree tree, Sets sets) {
+            this.units = units;
             this.tree = tree;
             this.sets = sets;
         }
@@ -345,9 +455,10 @@ public final class PatternJudge {
         int readPattern() {
             tree.makeEmpty();
             sets.makeEmpty();
+            units.readAll();
             place = 0;
             int root = readGroup(0);
-            if (place < pattern.length || tree.once[root] > MOST_SIZE) {
+            if (place < units.count || tree.once[root] > MOST_SIZE) {
                 throw new IllegalArgumentException();
             }
             return root;
@@ -378,8 +489,8 @@ public final class PatternJudge {
         }
 
         private boolean isAtBranchEnd() {
-            int c = pattern.at(place);
-            return c == NONE || c == '|' || c == ')';
+            int unit = units.row[place];
+            return unit == NONE || unit == '|' || unit == ')';
         }
 
         private int readItem(int depth) {
@@ -389,7 +500,12 @@ public final class PatternJudge {
             if (take('$')) {
                 return tree.add(END, NONE, 1);
             }
-            int item = take('(') ? readInBrackets(depth + 1) : tree.add(CHARACTER, readSet(), 1);
+            int item;
+            if (take('(')) {
+                item = readInBrackets(depth + 1);
+            } else {
+                item = tree.add(CHARACTER, take('[') ? readRanges() : readOne(), 1);
+            }
             readQuantity(item);
             return item;
         }
@@ -398,8 +514,8 @@ public final class PatternJudge {
             if (depth > MOST_DEPTH) {
                 throw new IllegalArgumentException();
             }
-            if (pattern.at(place) == '?' && pattern.at(place + 1) == ':') {
-                place += 2;
+            if (take('?')) {
+                demand(':');
             }
             int group = readGroup(depth);
             demand(')');
@@ -407,38 +523,34 @@ public final class PatternJudge {
         }
 
         private void readQuantity(int item) {
-            if (take('*')) {
-                tree.repeat(item, 0, ANY_NUMBER);
-            } else if (take('+')) {
-                tree.repeat(item, 1, ANY_NUMBER);
+            int least = 0;
+            int most = ANY_NUMBER;
+            if (take('+')) {
+                least = 1;
             } else if (take('?')) {
-                tree.repeat(item, 0, 1);
+                most = 1;
             } else if (take('{')) {
-                readTimes(item);
-            } else {
+                least = readNumber();
+                most = least;
+                if (take(',')) {
+                    most = units.row[place] == '}' ? ANY_NUMBER : readNumber();
+                }
+                demand('}');
+            } else if (!take('*')) {
                 return;
             }
-            take('?');
-        }
-
-        private void readTimes(int item) {
-            int least = readNumber();
-            int most = least;
-            if (take(',')) {
-                most = pattern.at(place) == '}' ? ANY_NUMBER : readNumber();
-            }
-            demand('}');
             if (most != ANY_NUMBER && least > most) {
                 throw new IllegalArgumentException();
             }
+            take('?');
             tree.repeat(item, least, most);
         }
 
         private int readNumber() {
             int value = 0;
             int digits = 0;
-            while (digits < 3 && isDigit(pattern.at(place))) {
-                value = 10 * value + pattern.at(place) - '0';
+            while (digits < 3 && isDigit(units.row[place])) {
+                value = 10 * value + units.row[place] - '0';
                 place++;
                 digits++;
             }
@@ -448,135 +560,49 @@ public final class PatternJudge {
             return value;
         }
 
-        private int readSet() {
-            if (take('[')) {
-                return readRanges();
-            }
+        private int readOne() {
+            int unit = units.row[place];
             int set = sets.open(false);
-            if (take('.')) {
-                sets.addFamily(Sets.NO_LINE_END);
-            } else if (take('\\')) {
-                addToSet(readEscape());
-            } else {
-                addToSet(readPlain());
-            }
-            return set;
-        }
-
-        private int readPlain() {
-            int c = pattern.at(place);
-            if (c == NONE || isSyntax(c)) {
+            if (unit == '.') {
+                sets.add(Units.FAMILY | Sets.NO_LINE_END);
+            } else if (unit == NONE || Units.isSyntax(unit) || Units.isOnlyInSet(unit)) {
                 throw new IllegalArgumentException();
+            } else {
+                sets.add(unit);
             }
             place++;
-            return c;
+            return set;
         }
 
         private int readRanges() {
             int set = sets.open(take('^'));
-            for (int i = 0; i < PATTERN_ROOM && !take(']'); i++) {
+            for (int i = 0; i < PATTERN_ROOM && units.row[place] != ']'; i++) {
                 readRange();
             }
-            // A "[" that nothing closes ends in readRange, which finds no character there.
+            demand(']');
             return set;
         }
 
         private void readRange() {
-            int low = readSetCharacter();
-            if (pattern.at(place) != '-' || pattern.at(place + 1) == ']') {
-                addToSet(low);
-                return;
-            }
-            place++;
-            int high = readSetCharacter();
-            if (low < 0 || high < 0 || low > high) {
+            int low = units.row[place];
+            if (low == NONE) {
                 throw new IllegalArgumentException();
             }
+            place++;
+            if (units.row[place] != '-' || units.row[place + 1] == ']') {
+                sets.add(low);
+                return;
+            }
+            int high = units.row[place + 1];
+            if (high == NONE) {
+                throw new IllegalArgumentException();
+            }
+            place += 2;
             sets.addRange(low, high);
         }
 
-        private int readSetCharacter() {
-            int c = pattern.at(place);
-            if (c == NONE || c == ']') {
-                throw new IllegalArgumentException();
-            }
-            place++;
-            if (c != '\\') {
-                return c;
-            }
-            if (take('-')) {
-                return '-';
-            }
-            return take('b') ? 8 : readEscape();
-        }
-
-        /** An escape that is a family is answered as that family's number, made negative. */
-        private int readEscape() {
-            int c = pattern.at(place);
-            place++;
-            switch (c) {
-                case 'd': return -Sets.DIGIT;
-                case 'D': return -Sets.NO_DIGIT;
-                case 'w': return -Sets.WORD;
-                case 'W': return -Sets.NO_WORD;
-                case 's': return -Sets.BLANK;
-                case 'S': return -Sets.NO_BLANK;
-                case 't': return 9;
-                case 'n': return 10;
-                case 'v': return 11;
-                case 'f': return 12;
-                case 'r': return 13;
-                case 'x': return readHexadecimal(2);
-                case 'u': return take('{') ? readHexadecimalInBraces() : readHexadecimal(4);
-                default: return readCharacterEscape(c);
-            }
-        }
-
-        private int readCharacterEscape(int c) {
-            if (c == '0' && !isDigit(pattern.at(place))) {
-                return 0;
-            }
-            if (c != '/' && !isSyntax(c)) {
-                throw new IllegalArgumentException();
-            }
-            return c;
-        }
-
-        private int readHexadecimal(int digits) {
-            int value = 0;
-            for (int i = 0; i < digits; i++) {
-                int digit = hexadecimalValue(pattern.at(place));
-                if (digit == NONE) {
-                    throw new IllegalArgumentException();
-                }
-                value = 16 * value + digit;
-                place++;
-            }
-            return value;
-        }
-
-        private int readHexadecimalInBraces() {
-            int value = readHexadecimal(1);
-            for (int i = 0; i < PATTERN_ROOM && !take('}'); i++) {
-                value = 16 * value + readHexadecimal(1);
-                // Looked at after each digit: any number of digits may come, and none may wrap around.
-                if (value > LAST_CHARACTER) {
-                    throw new IllegalArgumentException();
-                }
-            }
-            return value;
-        }
-
-        private void addToSet(int characterOrFamily) {
-            if (characterOrFamily < 0) {
-                sets.addFamily(-characterOrFamily);
-            } else {
-                sets.addRange(characterOrFamily, characterOrFamily);
-            }
-        }
-
         private boolean take(int c) {
-            if (pattern.at(place) != c) {
+            if (units.row[place] != c) {
                 return false;
             }
             place++;
@@ -587,10 +613,6 @@ public final class PatternJudge {
             if (!take(c)) {
                 throw new IllegalArgumentException();
             }
-        }
-
-        private static boolean isSyntax(int c) {
-            return c >= 0 && c < 128 && SYNTAX.indexOf((char) c) >= 0;
         }
     }
 

@@ -195,6 +195,8 @@ public final class SizeTest {
         Check.none("[\\d-z]");
         Check.none("[a-\\d]");
         Check.none("[+-\\S]");
+        Check.none("[\\0-\\d]");
+        Check.none("[\\0-\\S]");
         Check.none("[\\w-\\w]");
         Check.none("[\\a]");
         Check.none("[\\B]");
