@@ -657,16 +657,20 @@ public final class PatternJudge {
         private int buildGroup(int group, int behind, int depth) {
             int branch = tree.inside[group];
             int start = buildBranch(branch, behind, depth);
-            for (int b = tree.before[branch]; b >= 0; b = tree.before[b]) {
-                start = addState(SPLIT, buildBranch(b, behind, depth), start);
+            int former = tree.before[branch];
+            for (int i = 0; i < tree.count && former >= 0; i++) {
+                start = addState(SPLIT, buildBranch(former, behind, depth), start);
+                former = tree.before[former];
             }
             return start;
         }
 
         private int buildBranch(int branch, int behind, int depth) {
             int start = behind;
-            for (int item = tree.inside[branch]; item >= 0; item = tree.before[item]) {
+            int item = tree.inside[branch];
+            for (int i = 0; i < tree.count && item >= 0; i++) {
                 start = buildItem(item, start, depth);
+                item = tree.before[item];
             }
             return start;
         }

@@ -168,15 +168,15 @@ public final class MatchTest {
     }
 
     private static void sets() {
-        takesOnly("[abc]", "abc");
-        takesOnly("[b-d]", "bcd");
-        takesOnly("[b-b]", "b");
-        takesOnly("[a-cx-z]", "abcxyz");
-        takesOnly("[.*$^(|]", ".*$^(|");
-        takesOnly("[[]", "[");
-        takesOnly("[\\]]", "]");
-        takesOnly("[ab^]", "ab^");
-        takesOnly("[\\x61-\\u{63}]", "abc");
+        Check.takesOnly("[abc]", "abc");
+        Check.takesOnly("[b-d]", "bcd");
+        Check.takesOnly("[b-b]", "b");
+        Check.takesOnly("[a-cx-z]", "abcxyz");
+        Check.takesOnly("[.*$^(|]", ".*$^(|");
+        Check.takesOnly("[[]", "[");
+        Check.takesOnly("[\\]]", "]");
+        Check.takesOnly("[ab^]", "ab^");
+        Check.takesOnly("[\\x61-\\u{63}]", "abc");
         Check.takes("[^a-c]", 'a', false);
         Check.takes("[^a-c]", 'c', false);
         Check.takes("[^a-c]", 'd', true);
@@ -192,28 +192,22 @@ public final class MatchTest {
     }
 
     private static void hyphens() {
-        takesOnly("[-a]", "-a");
-        takesOnly("[a-]", "-a");
-        takesOnly("[-]", "-");
-        takesOnly("[--]", "-");
-        takesOnly("[---]", "-");
-        takesOnly("[a-c-]", "abc-");
-        takesOnly("[a-c-e]", "abc-e");
-        takesOnly("[a-c-e-g]", "abc-efg");
-        takesOnly("[+--]", "+,-");
-        takesOnly("[--/]", "-./");
-        takesOnly("[a\\-c]", "a-c");
-        takesOnly("[\\d-]", "0123456789-");
-        takesOnly("[a-c-\\d]", "0123456789-abc");
+        Check.takesOnly("[-a]", "-a");
+        Check.takesOnly("[a-]", "-a");
+        Check.takesOnly("[-]", "-");
+        Check.takesOnly("[--]", "-");
+        Check.takesOnly("[---]", "-");
+        Check.takesOnly("[a-c-]", "abc-");
+        Check.takesOnly("[a-c-e]", "abc-e");
+        Check.takesOnly("[a-c-e-g]", "abc-efg");
+        Check.takesOnly("[+--]", "+,-");
+        Check.takesOnly("[--/]", "-./");
+        Check.takesOnly("[a\\-c]", "a-c");
+        Check.takesOnly("[\\d-]", "0123456789-");
+        Check.takesOnly("[a-c-\\d]", "0123456789-abc");
         Check.takes("[^-a]", '-', false);
         Check.takes("[^-a]", 'b', true);
         Check.takes("[^a-]", '-', false);
-    }
-
-    private static void takesOnly(String pattern, String all) {
-        for (int c = 0; c < 128; c++) {
-            Check.takes(pattern, c, all.indexOf(c) >= 0);
-        }
     }
 
     /** The longest string, patterns that would take a search with many ways very long. */

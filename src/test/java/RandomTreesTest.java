@@ -12,7 +12,6 @@ public final class RandomTreesTest {
     private static long seed = 20261115L;
 
     public static void main(String[] args) {
-        PatternJudge x = new PatternJudge();
         int small = 0;
         for (int i = 0; i < 6000; i++) {
             Tree tree = new Tree(3);
@@ -20,8 +19,7 @@ public final class RandomTreesTest {
             if (pattern.length() > 600) {
                 continue;
             }
-            x.clear(true);
-            Check.put(x, true, pattern);
+            PatternJudge x = Check.judge(pattern, "");
             if (tree.size() > 400) {
                 Check.due("size of " + pattern, x::size, Check.ILLEGAL);
                 continue;

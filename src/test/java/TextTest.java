@@ -84,7 +84,8 @@ public final class TextTest {
             Check.due("letter " + c, () -> x.letter(pattern, c), ILLEGAL);
         }
         Check.due("none came", () -> x.letters(pattern, 0L), 0);
-        for (int i = 1; i <= room; i++) {
+        Check.put(x, pattern, "a".repeat(room - 200));
+        for (int i = room - 199; i <= room; i++) {
             Check.due("letter", () -> x.letter(pattern, 'a'), i);
         }
         Check.due("letter beyond the limit", () -> x.letter(pattern, 'a'), OUT);
