@@ -90,13 +90,12 @@ final class Check {
      */
     static void none(String pattern) {
         PatternJudge x = judge(pattern, "ab");
-        due("size of " + pattern, x::size, ILLEGAL);
-        due("matches of " + pattern, x::matches, ILLEGAL);
-        due("first of " + pattern, x::first, ILLEGAL);
-        due("longest(0) of " + pattern, () -> x.longest(0), ILLEGAL);
-        due("longest(-1) of " + pattern, () -> x.longest(-1), ILLEGAL);
-        due("longest(3) of " + pattern, () -> x.longest(3), ILLEGAL);
-        due("refused again: " + pattern, x::size, ILLEGAL);
+        refused(x, "size of " + pattern, x::size, ILLEGAL);
+        refused(x, "matches of " + pattern, x::matches, ILLEGAL);
+        refused(x, "first of " + pattern, x::first, ILLEGAL);
+        for (int from : new int[] {0, -1, 3}) {
+            refused(x, "longest(" + from + ") of " + pattern, () -> x.longest(from), ILLEGAL);
+        }
         due("length of the refused " + pattern, () -> x.letters(true, 0L), length(pattern));
         due("length of the string under " + pattern, () -> x.letters(false, 0L), 2);
         x.clear(true);
