@@ -75,7 +75,7 @@ public final class PatternJudge {
     }
 
     public int size() throws IllegalArgumentException {
-        return tree.once[reader.readPattern()];
+        return tree.sizeOnce(reader.readPattern());
     }
 
     public boolean matches() throws IllegalArgumentException {
@@ -305,6 +305,18 @@ public final class PatternJudge {
             count = 0;
         }
 
+        boolean has(int node) {
+            return node >= 0 && node < count;
+        }
+
+        int sizeOnce(int node) {
+            return has(node) ? once[node] : 0;
+        }
+
+        int sizeWhole(int node) {
+            return has(node) ? whole[node] : 0;
+        }
+
         int add(int nodeKind, int nodeInside, int size) {
             if (count >= NODES) {
                 throw new IllegalArgumentException();
@@ -321,7 +333,16 @@ public final class PatternJudge {
             return node;
         }
 
+        void hangOn(int node, int former) {
+            if (has(node)) {
+                before[node] = former;
+            }
+        }
+
         void repeat(int node, int leastTimes, int mostTimes) {
+            if (!has(node)) {
+                return;
+            }
             least[node] = leastTimes;
             most[node] = mostTimes;
             int copies = mostTimes == ANY_NUMBER ? leastTimes + 1 : mostTimes;
@@ -341,8 +362,7 @@ public final class PatternJudge {
         private static final String SYNTAX = "^$\\.*+?()[]{}|";
 
         private final Text pattern;
-        /** Behind the last unit stands NONE, so that a reader can look ahead. */
-        private final int[] row = new int[PATTERN_ROOM + 1];
+        private final int[] row = new int[PATTERN_ROOM];
         private int count;
         private int place;
 
@@ -359,7 +379,11 @@ public final class PatternJudge {
                 row[count] = c == '\\' ? readEscape() : c;
                 count++;
             }
-            row[count] = NONE;
+        }
+
+        /** NONE behind the last unit, so that a reader can look ahead. */
+        int at(int index) {
+            return index >= 0 && index < count ? row[index] : NONE;
         }
 
         private int readEscape() {
@@ -458,7 +482,7 @@ public final class PatternJudge {
             units.readAll();
             place = 0;
             int root = readGroup(0);
-            if (place < units.count || tree.once[root] > MOST_SIZE) {
+            if (place < units.count || tree.sizeOnce(root) > MOST_SIZE) {
                 throw new IllegalArgumentException();
             }
             return root;
@@ -466,12 +490,12 @@ public final class PatternJudge {
 
         private int readGroup(int depth) {
             int branch = readBranch(depth);
-            int size = tree.once[branch];
+            int size = tree.sizeOnce(branch);
             for (int i = 0; i < PATTERN_ROOM && take('|'); i++) {
                 int next = readBranch(depth);
-                tree.before[next] = branch;
+                tree.hangOn(next, branch);
                 branch = next;
-                size += 1 + tree.once[branch];
+                size += 1 + tree.sizeOnce(branch);
             }
             return tree.add(GROUP, branch, size);
         }
@@ -481,15 +505,15 @@ public final class PatternJudge {
             int size = 0;
             for (int i = 0; i < PATTERN_ROOM && !isAtBranchEnd(); i++) {
                 int next = readItem(depth);
-                tree.before[next] = item;
+                tree.hangOn(next, item);
                 item = next;
-                size += tree.whole[item];
+                size += tree.sizeWhole(item);
             }
             return tree.add(BRANCH, item, size);
         }
 
         private boolean isAtBranchEnd() {
-            int unit = units.row[place];
+            int unit = units.at(place);
             return unit == NONE || unit == '|' || unit == ')';
         }
 
@@ -533,7 +557,7 @@ public final class PatternJudge {
                 least = readNumber();
                 most = least;
                 if (take(',')) {
-                    most = units.row[place] == '}' ? ANY_NUMBER : readNumber();
+                    most = units.at(place) == '}' ? ANY_NUMBER : readNumber();
                 }
                 demand('}');
             } else if (!take('*')) {
@@ -549,8 +573,8 @@ public final class PatternJudge {
         private int readNumber() {
             int value = 0;
             int digits = 0;
-            while (digits < 3 && isDigit(units.row[place])) {
-                value = 10 * value + units.row[place] - '0';
+            while (digits < 3 && isDigit(units.at(place))) {
+                value = 10 * value + units.at(place) - '0';
                 place++;
                 digits++;
             }
@@ -561,7 +585,7 @@ public final class PatternJudge {
         }
 
         private int readOne() {
-            int unit = units.row[place];
+            int unit = units.at(place);
             int set = sets.open(false);
             if (unit == '.') {
                 sets.add(Units.FAMILY | Sets.NO_LINE_END);
@@ -576,7 +600,7 @@ public final class PatternJudge {
 
         private int readRanges() {
             int set = sets.open(take('^'));
-            for (int i = 0; i < PATTERN_ROOM && units.row[place] != ']'; i++) {
+            for (int i = 0; i < PATTERN_ROOM && units.at(place) != ']'; i++) {
                 readRange();
             }
             demand(']');
@@ -584,16 +608,16 @@ public final class PatternJudge {
         }
 
         private void readRange() {
-            int low = units.row[place];
+            int low = units.at(place);
             if (low == NONE) {
                 throw new IllegalArgumentException();
             }
             place++;
-            if (units.row[place] != '-' || units.row[place + 1] == ']') {
+            if (units.at(place) != '-' || units.at(place + 1) == ']') {
                 sets.add(low);
                 return;
             }
-            int high = units.row[place + 1];
+            int high = units.at(place + 1);
             if (high == NONE) {
                 throw new IllegalArgumentException();
             }
@@ -602,7 +626,7 @@ public final class PatternJudge {
         }
 
         private boolean take(int c) {
-            if (units.row[place] != c) {
+            if (units.at(place) != c) {
                 return false;
             }
             place++;
@@ -641,6 +665,10 @@ public final class PatternJudge {
             entry = buildGroup(root, addState(ACCEPT, NONE, NONE), 0);
         }
 
+        boolean has(int state) {
+            return state >= 0 && state < count;
+        }
+
         private int addState(int stateKind, int nextState, int otherState) {
             if (count >= STATES) {
                 throw new IllegalArgumentException();
@@ -655,12 +683,12 @@ public final class PatternJudge {
         }
 
         private int buildGroup(int group, int behind, int depth) {
-            int branch = tree.inside[group];
-            int start = buildBranch(branch, behind, depth);
-            int former = tree.before[branch];
-            for (int i = 0; i < tree.count && former >= 0; i++) {
-                start = addState(SPLIT, buildBranch(former, behind, depth), start);
-                former = tree.before[former];
+            int start = NONE;
+            int branch = tree.has(group) ? tree.inside[group] : NONE;
+            for (int i = 0; i < tree.count && tree.has(branch); i++) {
+                int way = buildBranch(branch, behind, depth);
+                start = start == NONE ? way : addState(SPLIT, way, start);
+                branch = tree.before[branch];
             }
             return start;
         }
@@ -668,7 +696,7 @@ public final class PatternJudge {
         private int buildBranch(int branch, int behind, int depth) {
             int start = behind;
             int item = tree.inside[branch];
-            for (int i = 0; i < tree.count && item >= 0; i++) {
+            for (int i = 0; i < tree.count && tree.has(item); i++) {
                 start = buildItem(item, start, depth);
                 item = tree.before[item];
             }
@@ -810,7 +838,7 @@ public final class PatternJudge {
         }
 
         private void join(int state, int begin) {
-            if (count < STATES && enteredAt[state] != place) {
+            if (automaton.has(state) && count < STATES && enteredAt[state] != place) {
                 enteredAt[state] = place;
                 states[count] = state;
                 begins[count] = begin;

@@ -5,21 +5,35 @@ import java.util.TreeSet;
 /**
  * Promises 5 to 8 over many patterns: trees made from a fixed row of numbers are written as
  * patterns, and the answers are told by the tree itself, in the plainest way: the set of all places
- * where a part that begins at a place can end.
+ * where a part that begins at a place can end. One object is given one pattern after the other, so
+ * that what an earlier one has left behind would show.
  */
 public final class RandomTreesTest {
     private static final String STRINGS = "aabbc1\n";
+    /** The document's limit for one object. */
+    private static final int CALLS = 512;
+    /** What a tree takes beside its letters: clear and size; for each string clear, letters, ten questions. */
+    private static final int CALLS_OF_A_TREE = 2 + 3 * 12;
     private static long seed = 20261115L;
 
     public static void main(String[] args) {
         int small = 0;
+        PatternJudge x = new PatternJudge();
+        int calls = 0;
         for (int i = 0; i < 6000; i++) {
             Tree tree = new Tree(3);
             String pattern = tree.text();
             if (pattern.length() > 600) {
                 continue;
             }
-            PatternJudge x = Check.judge(pattern, "");
+            int more = CALLS_OF_A_TREE + (pattern.length() + 7) / 8;
+            if (calls + more > CALLS) {
+                x = new PatternJudge();
+                calls = 0;
+            }
+            calls += more;
+            x.clear(true);
+            Check.put(x, true, pattern);
             if (tree.size() > 400) {
                 Check.due("size of " + pattern, x::size, Check.ILLEGAL);
                 continue;
