@@ -202,23 +202,13 @@ public final class PatternJudge {
             return count - 1;
         }
 
-        void add(int unit) {
-            if (!Units.isFamily(unit)) {
-                addRange(unit, unit);
-            } else if (count > 0) {
-                families[count - 1] |= unit & Units.VALUE;
-            }
-        }
-
-        void addRange(int lowUnit, int highUnit) {
-            int low = lowUnit & Units.VALUE;
-            int high = highUnit & Units.VALUE;
-            if (Units.isFamily(lowUnit) || Units.isFamily(highUnit) || low > high) {
-                throw new IllegalArgumentException();
-            }
-            if (count > 0 && ranges < PATTERN_ROOM) {
-                rangeFirst[ranges] = low;
-                rangeLast[ranges] = high;
+        /** The characters from the unit low to the unit high; a family stands alone, as both. */
+        void add(int low, int high) {
+            if (count > 0 && (low & Units.FAMILY) != 0) {
+                families[count - 1] |= low & Units.VALUE;
+            } else if (count > 0 && ranges < PATTERN_ROOM) {
+                rangeFirst[ranges] = low & Units.VALUE;
+                rangeLast[ranges] = high & Units.VALUE;
                 ranges++;
                 rangesTo[count - 1] = ranges;
             }
@@ -453,12 +443,13 @@ public final class PatternJudge {
             return unit >= 0 && unit < 128 && SYNTAX.indexOf((char) unit) >= 0;
         }
 
-        static boolean isFamily(int unit) {
-            return unit >= 0 && (unit & FAMILY) != 0;
-        }
-
         static boolean isOnlyInSet(int unit) {
             return unit >= 0 && (unit & ONLY_IN_SET) != 0;
+        }
+
+        /** Whether a range may go from low to high: two characters, the first one not above the other. */
+        static boolean isRange(int low, int high) {
+            return low >= 0 && high >= 0 && ((low | high) & FAMILY) == 0 && (low & VALUE) <= (high & VALUE);
         }
     }
 
@@ -586,15 +577,15 @@ public final class PatternJudge {
 
         private int readOne() {
             int unit = units.at(place);
-            int set = sets.open(false);
             if (unit == '.') {
-                sets.add(Units.FAMILY | Sets.NO_LINE_END);
-            } else if (unit == NONE || Units.isSyntax(unit) || Units.isOnlyInSet(unit)) {
+                unit = Units.FAMILY | Sets.NO_LINE_END;
+            }
+            if (unit == NONE || Units.isSyntax(unit) || Units.isOnlyInSet(unit)) {
                 throw new IllegalArgumentException();
-            } else {
-                sets.add(unit);
             }
             place++;
+            int set = sets.open(false);
+            sets.add(unit, unit);
             return set;
         }
 
@@ -614,15 +605,15 @@ public final class PatternJudge {
             }
             place++;
             if (units.at(place) != '-' || units.at(place + 1) == ']') {
-                sets.add(low);
+                sets.add(low, low);
                 return;
             }
             int high = units.at(place + 1);
-            if (high == NONE) {
+            if (!Units.isRange(low, high)) {
                 throw new IllegalArgumentException();
             }
             place += 2;
-            sets.addRange(low, high);
+            sets.add(low, high);
         }
 
         private boolean take(int c) {
@@ -634,9 +625,10 @@ public final class PatternJudge {
         }
 
         private void demand(int c) {
-            if (!take(c)) {
+            if (units.at(place) != c) {
                 throw new IllegalArgumentException();
             }
+            place++;
         }
     }
 
